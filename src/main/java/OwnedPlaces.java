@@ -164,7 +164,7 @@ public final class OwnedPlaces {
     private final Types types = new Types();
     private final Declarations declared = new Declarations(text, types);
     private final Code code = new Code();
-    private final Statements statements = new Statements(text, types, declared, code);
+    private final Typing typing = new Typing(text, types, declared, code);
     private final Moves moves = new Moves(types, code);
     private final Loans loans = new Loans(types, code, declared);
     private final Queue numbers = new Queue(MOST_INPUT);
@@ -245,22 +245,16 @@ public final class OwnedPlaces {
             declared.read(grammar);
         }
         if (text.fault == 0) {
-            statements.program();
+            typing.program();
         }
         for (int i = 0; i < declared.total && text.fault == 0; i++) {
-            lookOverFunction(declared.functions[i]);
-        }
-    }
-
-    private void lookOverFunction(Function function) {
-        int moved = moves.firstFault(function);
-        if (moved >= 0) {
-            text.fail(NO_MOVE, moved);
-            return;
-        }
-        int lent = loans.firstFault(function);
-        if (lent >= 0) {
-            text.fail(NO_LOAN, lent);
+            int moved = moves.firstFault(declared.functions[i]);
+            int lent = moved >= 0 ? -1 : loans.firstFault(declared.functions[i]);
+            if (moved >= 0) {
+                text.fail(NO_MOVE, moved);
+            } else if (lent >= 0) {
+                text.fail(NO_LOAN, lent);
+            }
         }
     }
 
@@ -396,16 +390,18 @@ public final class OwnedPlaces {
         }
 
         boolean take(int wanted) {
-            if (kinds[now] != wanted) {
+            if (kinds[now] != wanted || wanted == END) {
                 return false;
             }
-            step(1);
+            now++;
             return true;
         }
 
         void need(int wanted) {
-            if (!take(wanted)) {
-                fail(SYNTAX, where());
+            if (kinds[now] == wanted && wanted != END) {
+                now++;
+            } else {
+                fail(SYNTAX, places[now]);
             }
         }
 
@@ -611,30 +607,22 @@ public final class OwnedPlaces {
             shapes = 0;
             functions = 0;
             for (int i = 0; i < MOST_TOKENS && text.kind() != END; i++) {
-                item(text.kind());
+                int word = text.kind();
+                if (word == FN) {
+                    function();
+                } else if (word == STRUCT || word == ENUM) {
+                    shape(word);
+                } else {
+                    syntax();
+                }
             }
         }
 
-        private void item(int word) {
-            if (word != STRUCT && word != ENUM && word != FN) {
-                syntax();
-                return;
-            }
-            if (word == FN ? functions == MOST_FUNCTIONS : shapes == MOST_SHAPES) {
-                limit();
-                return;
-            }
+        private void noteItem() {
             items[total] = text.now;
             total++;
             text.step(1);
             text.need(NAME);
-            if (word == FN) {
-                functions++;
-                function();
-            } else {
-                shapes++;
-                shape(word);
-            }
         }
 
         private void syntax() {
@@ -646,6 +634,12 @@ public final class OwnedPlaces {
         }
 
         private void shape(int word) {
+            if (shapes == MOST_SHAPES) {
+                limit();
+                return;
+            }
+            shapes++;
+            noteItem();
             text.need('{');
             for (int i = 0; i < MOST_TOKENS && (i == 0 || text.take(',')); i++) {
                 if (text.kind() == NAME && i == MOST_PARTS) {
@@ -704,8 +698,14 @@ public final class OwnedPlaces {
         }
 
         private void function() {
+            if (functions == MOST_FUNCTIONS) {
+                limit();
+                return;
+            }
+            functions++;
             variables = 0;
             borrows = 0;
+            noteItem();
             if (text.take('<')) {
                 lives();
             }
@@ -1029,22 +1029,13 @@ public final class OwnedPlaces {
 
         void clear() {
             shapes = 0;
+            total = 0;
             for (int t = 0; t < FIRST_MADE; t++) {
-                set(t, IS_PLAIN, 0, t == INT_TYPE || t == BOOL_TYPE || t == TOKEN_TYPE ? 1 : 0);
+                make(IS_PLAIN, 0);
+                size[t] = t == INT_TYPE || t == BOOL_TYPE || t == TOKEN_TYPE ? 1 : 0;
             }
             kind[TOKEN_TYPE] = IS_TOKEN;
             drops[TOKEN_TYPE] = true;
-            total = FIRST_MADE;
-        }
-
-        private void set(int type, int itsKind, int itsOf, int itsSize) {
-            kind[type] = itsKind;
-            of[type] = itsOf;
-            size[type] = itsSize;
-            drops[type] = itsKind == IS_BOX;
-            boxes[type] = 0;
-            shared[type] = 0;
-            unique[type] = 0;
         }
 
         int addShape(int token, int itsKind) {
@@ -1090,9 +1081,16 @@ public final class OwnedPlaces {
             if (total == MOST_TYPES) {
                 return NOTHING_TYPE;
             }
-            set(total, itsKind, itsOf, 1);
+            int type = total;
+            kind[type] = itsKind;
+            of[type] = itsOf;
+            size[type] = 1;
+            drops[type] = itsKind == IS_BOX;
+            boxes[type] = 0;
+            shared[type] = 0;
+            unique[type] = 0;
             total++;
-            return total - 1;
+            return type;
         }
 
         boolean isReference(int type) {
@@ -1507,6 +1505,8 @@ public final class OwnedPlaces {
         final int[] placeRoute = new int[MOST_TOKENS];
         final int[] placeType = new int[MOST_TOKENS];
         final int[] placeWhere = new int[MOST_TOKENS];
+        /** The cells of its variable that it is, or, with stars, the one that the first star is of; a bit each. */
+        final int[] placeCells = new int[MOST_TOKENS];
         private int places;
         final int[] armLabels = new int[MOST_TOKENS];
         private int arms;
@@ -1556,14 +1556,16 @@ public final class OwnedPlaces {
             return first;
         }
 
-        int addPlace(int variable, int path, int length, int route, int type, int itsWhere) {
+        int addPlace(int variable, int path, int length, int route, int type, int size, int itsWhere) {
             int p = places;
+            int cells = (route & 15) > 0 ? 1 : (1 << size) - 1;
             placeVariable[p] = variable;
             placePath[p] = path;
             placeLength[p] = length;
             placeRoute[p] = route;
             placeType[p] = type;
             placeWhere[p] = itsWhere;
+            placeCells[p] = cells << (route >> 4 & 15);
             if (places < MOST_TOKENS - 1) {
                 places++;
             }
@@ -1573,55 +1575,329 @@ public final class OwnedPlaces {
         boolean hasStars(int p) {
             return (placeRoute[p] & 15) > 0;
         }
-
-        /** The cells of its variable that it is, or, with stars, the one that the first star is of. */
-        int cellsOf(int p, int size) {
-            int cells = hasStars(p) ? 1 : (1 << size) - 1;
-            return cells << (placeRoute[p] >> 4 & 15);
-        }
     }
 
-    /** Types an exp at the cursor and writes its code. A place is held back until it is told what it is used for. */
-    private static final class Expressions {
+    /** Types the functions' statements from the left and writes their code. */
+    private static final class Typing {
         private final Text text;
         private final Types types;
         private final Declarations declared;
         private final Code code;
         private Function function;
+        // The exp that was read last. A place is held back until it is told what it is used for.
+        private int type;
         private boolean isPlace;
         private int variable;
         private int path;
         private int length;
         private int route;
-        int type;
         private boolean isMutable;
         private int from;
 
-        Expressions(Text text, Types types, Declarations declared, Code code) {
+        Typing(Text text, Types types, Declarations declared, Code code) {
             this.text = text;
             this.types = types;
             this.declared = declared;
             this.code = code;
         }
 
-        void begin(Function itsFunction) {
-            function = itsFunction;
+        void program() {
+            code.clear();
+            for (int i = 0; i < declared.total && text.fault == 0; i++) {
+                function = declared.functions[i];
+                body();
+            }
+        }
+
+        private void body() {
+            for (int v = 0; v < function.parameters; v++) {
+                function.settle(v, function.type[v], types.size[function.type[v]]);
+                function.from[v] = code.total;
+            }
+            function.argumentCells = function.cells;
+            function.codeFrom = code.total;
+            function.firstLabel = code.labels;
+            text.now = function.body;
+            boolean returns = block(function.parameters, 1);
+            int end = text.places[text.now - 1];
+            if (!returns && function.result != NOTHING_TYPE) {
+                text.fail(NO_TYPE, end);
+            }
+            code.add(DO_RETURN, NOTHING_TYPE, 0, -1, end);
+            function.codeTo = code.total;
+            function.labels = code.labels - function.firstLabel;
+            function.close(0, code.total);
+        }
+
+        /** Whether all its ways return; with it the variables from that one on go out of scope. */
+        private boolean block(int first, int depth) {
+            boolean returns = false;
+            text.step(1);
+            for (int i = 0; i < MOST_TOKENS && depth <= NESTING && text.fault == 0 && text.kind() != '}'; i++) {
+                boolean itReturns = statement(depth);
+                returns = returns || itReturns;
+            }
+            if (first < function.variables) {
+                function.close(first, code.total);
+                code.add(DO_SCOPE, first, function.variables, 0, text.where());
+            }
+            text.step(1);
+            return returns;
+        }
+
+        private boolean statement(int depth) {
+            code.add(DO_FUEL, 0);
+            switch (text.kind()) {
+                case IF: return branch(depth);
+                case MATCH: return match(depth);
+                case '{': return block(function.variables, depth + 1);
+                case RETURN: return giveBack(depth);
+                case WHILE: loop(depth); return false;
+                case LET: let(depth); return false;
+                case PRINT: print(depth); return false;
+                default: assignment(depth); return false;
+            }
+        }
+
+        private void let(int depth) {
+            text.step(1);
+            boolean hasMut = text.take(MUT);
+            int name = text.names[text.now];
+            int told = UNKNOWN;
+            text.step(1);
+            if (text.take(':')) {
+                told = declared.readLetType();
+            }
+            boolean hasExp = text.take('=');
+            if (hasExp) {
+                int where = text.where();
+                int got = value(depth);
+                if (got == NOTHING_TYPE || told != UNKNOWN && told != got) {
+                    text.fail(NO_TYPE, where);
+                }
+                told = got;
+            }
+            int v = function.declare(name, hasMut, code.total);
+            if (told != UNKNOWN) {
+                function.settle(v, told, types.size[told]);
+            }
+            code.add(hasExp ? DO_LET : DO_LET_NONE, v);
+            text.step(1);
+        }
+
+        private void assignment(int depth) {
+            int start = text.now;
+            int sign = text.links[start];
+            if (sign == 0) {
+                code.add(DO_DROP, value(depth));
+                text.step(1);
+                return;
+            }
+            text.now = sign + 1;
+            int where = text.where();
+            int got = value(depth);
+            int behind = text.now;
+            if (text.fault != 0) {
+                return;
+            }
+            int whole = wholeVariable(start, sign);
+            if (whole >= 0 && function.type[whole] == UNKNOWN && got != NOTHING_TYPE) {
+                function.settle(whole, got, types.size[got]);
+            } else if (got == NOTHING_TYPE && whole >= 0) {
+                text.fail(NO_TYPE, where);
+                return;
+            }
+            text.now = start;
+            binary(1, depth);
+            if (text.fault == 0) {
+                assign(got, where);
+            }
+            if (text.fault == 0) {
+                text.now = behind + 1;
+            }
+        }
+
+        /** The variable that is all that stands ahead of the =, or -1. */
+        private int wholeVariable(int start, int sign) {
+            int brackets = 0;
+            while (start + brackets < sign && text.kinds[start + brackets] == '(') {
+                brackets++;
+            }
+            int token = start + brackets;
+            boolean isWhole = text.kinds[token] == NAME && token + brackets + 1 == sign;
+            return isWhole ? function.find(text.names[token]) : -1;
+        }
+
+        private void condition(int depth) {
+            fitting(BOOL_TYPE, depth);
+        }
+
+        private boolean branch(int depth) {
+            int end = code.newLabel();
+            boolean returns = true;
+            boolean more = true;
+            boolean hasElse = false;
+            for (int i = 0; i < MOST_TOKENS && more && text.fault == 0; i++) {
+                text.step(1);
+                condition(depth);
+                int other = code.newLabel();
+                code.add(DO_UNLESS, other);
+                boolean itReturns = block(function.variables, depth + 1);
+                returns = returns && itReturns;
+                code.add(DO_JUMP, end);
+                code.setLabel(DO_LABEL, other);
+                hasElse = text.take(ELSE);
+                more = hasElse && text.kind() == IF;
+            }
+            if (hasElse && text.fault == 0) {
+                boolean itReturns = block(function.variables, depth + 1);
+                returns = returns && itReturns;
+            }
+            code.setLabel(DO_LABEL, end);
+            return returns && hasElse;
+        }
+
+        private void loop(int depth) {
+            int head = code.newLabel();
+            int end = code.newLabel();
+            text.step(1);
+            code.setLabel(DO_HEAD, head);
+            code.add(DO_FUEL, 0);
+            condition(depth);
+            code.add(DO_UNLESS, end);
+            block(function.variables, depth + 1);
+            code.add(DO_LOOP, head);
+            code.setLabel(DO_LABEL, end);
+        }
+
+        private boolean match(int depth) {
+            int where = text.where();
+            text.step(1);
+            boolean borrowed = text.take('&');
+            boolean isUnique = borrowed && text.take(MUT);
+            int expWhere = text.where();
+            int loan = -1;
+            if (borrowed) {
+                binary(1, depth);
+            } else {
+                value(depth);
+            }
+            if (types.kind[type] != IS_ENUM) {
+                text.fail(NO_TYPE, expWhere);
+            }
+            if (text.fault == 0 && borrowed) {
+                loan = lend(isUnique);
+            }
+            if (text.fault != 0) {
+                return false;
+            }
+            text.step(1);
+            boolean returns = arms(type, loan, isUnique, where, depth + 2);
+            text.step(1);
+            return returns;
+        }
+
+        private boolean arms(int matched, int loan, boolean isUnique, int where, int depth) {
+            int shape = matched - FIRST_SHAPE;
+            int total = types.variants[shape];
+            int table = code.newArms(total);
+            int end = code.newLabel();
+            int seen = 0;
+            boolean returns = true;
+            code.add(DO_SWITCH, table, loan < 0 ? types.size[matched] : 0, total, -1);
+            for (int i = 0; i < MOST_TOKENS && text.kind() == NAME; i++) {
+                int tag = types.variantOf(shape, text.names[text.now]);
+                if (tag < 0 || (seen >> tag & 1) == 1) {
+                    text.fail(NO_NAME, text.where());
+                    return false;
+                }
+                seen |= 1 << tag;
+                code.armLabels[table + tag] = code.newLabel();
+                code.setLabel(DO_LABEL, code.armLabels[table + tag]);
+                boolean itReturns = arm(matched, tag, loan, isUnique, depth);
+                returns = returns && itReturns;
+                code.add(DO_JUMP, end);
+            }
+            if (seen != (1 << total) - 1) {
+                text.fail(NO_TYPE, where);
+            }
+            code.setLabel(DO_LABEL, end);
+            return returns;
+        }
+
+        private boolean arm(int matched, int tag, int loan, boolean isUnique, int depth) {
+            int row = types.rowOf(matched - FIRST_SHAPE, tag);
+            int first = function.variables;
+            int where = text.where();
+            text.step(1);
+            int given = text.kind() == '(' ? text.links[text.now] : 0;
+            if (given != types.parts[row]) {
+                text.fail(NO_TYPE, where);
+                return false;
+            }
+            for (int i = 0; i < given; i++) {
+                text.step(1);
+                bind(row * MOST_PARTS + i, matched, loan, isUnique);
+                text.step(1);
+            }
+            if (given > 0) {
+                text.step(1);
+            }
+            code.add(DO_POP, loan < 0 ? types.size[matched] : 1);
+            text.step(1);
+            return block(first, depth);
+        }
+
+        private void bind(int part, int matched, int loan, boolean isUnique) {
+            int v = function.declare(text.names[text.now], false, code.total);
+            int partType = types.partType[part];
+            if (loan < 0) {
+                function.settle(v, partType, types.size[partType]);
+                code.add(DO_BIND, v, types.partOffset[part], types.size[matched], -1);
+            } else {
+                function.settle(v, types.referenceTo(partType, isUnique), 1);
+                code.add(DO_BIND_REFERENCE, v, types.partOffset[part], loan, -1);
+            }
+        }
+
+        private boolean giveBack(int depth) {
+            int where = text.where();
+            int got = NOTHING_TYPE;
+            int expWhere = -1;
+            text.step(1);
+            boolean hasExp = text.kind() != ';';
+            if (hasExp) {
+                expWhere = text.where();
+                got = value(depth);
+            }
+            if (got != function.result) {
+                text.fail(NO_TYPE, hasExp ? expWhere : where);
+            }
+            code.add(DO_RETURN, got, hasExp ? 1 : 0, expWhere, where);
+            text.step(1);
+            return true;
+        }
+
+        private void print(int depth) {
+            text.step(1);
+            int where = text.where();
+            int got = value(depth);
+            if (got != INT_TYPE && got != BOOL_TYPE) {
+                text.fail(NO_TYPE, where);
+            }
+            code.add(DO_PRINT, got);
+            text.step(1);
         }
 
         /** The type of the exp, which is used as a value. */
-        int value(int depth) {
+        private int value(int depth) {
             binary(1, depth);
             use();
             return type;
         }
 
-        /** An exp that is not used yet. */
-        void unused(int depth) {
-            binary(1, depth);
-        }
-
         /** An exp that has to be of that type. */
-        void fitting(int wanted, int depth) {
+        private void fitting(int wanted, int depth) {
             int where = text.where();
             int got = value(depth);
             if (got != wanted) {
@@ -1629,25 +1905,17 @@ public final class OwnedPlaces {
             }
         }
 
-        /** A place that is lent by a match. Its loan. */
-        int lendToMatch(boolean isUnique, int where) {
-            if (types.kind[type] != IS_ENUM) {
-                text.fail(NO_TYPE, where);
-            }
-            return lend(isUnique);
-        }
-
         /** A place that is assigned what was written last, of that type, at that exp. */
-        void assign(int got, int expWhere) {
+        private void assign(int got, int expWhere) {
             if (got != type) {
                 text.fail(NO_TYPE, expWhere);
             } else if (length > 0 && !isMutable) {
                 text.fail(NO_TYPE, from);
             }
-            code.add(DO_ASSIGN, addPlace());
+            code.add(DO_ASSIGN, code.addPlace(variable, path, length, route, type, types.size[type], from));
         }
 
-        void startPlace(int v, int where) {
+        private void startPlace(int v, int where) {
             isPlace = true;
             variable = v;
             path = 0;
@@ -1658,22 +1926,18 @@ public final class OwnedPlaces {
             from = where;
         }
 
-        private int addPlace() {
-            return code.addPlace(variable, path, length, route, type, from);
-        }
-
         private void use() {
             if (!isPlace || text.fault != 0) {
                 return;
             }
             isPlace = false;
-            if (types.isCopied(type)) {
-                code.add(DO_COPY, addPlace());
-            } else if (isMovable()) {
-                code.add(DO_MOVE, addPlace());
-            } else {
+            boolean isCopied = types.isCopied(type);
+            if (!isCopied && !isMovable()) {
                 text.fail(NO_TYPE, from);
+                return;
             }
+            int place = code.addPlace(variable, path, length, route, type, types.size[type], from);
+            code.add(isCopied ? DO_COPY : DO_MOVE, place);
         }
 
         private boolean isMovable() {
@@ -1725,7 +1989,10 @@ public final class OwnedPlaces {
         private void unary(int depth) {
             int sign = text.kind();
             int where = text.where();
-            if (depth > NESTING || sign != '!' && sign != '-' && sign != '*' && sign != '&' && sign != BOX) {
+            if (depth > NESTING) {
+                return;
+            }
+            if (sign != '!' && sign != '-' && sign != '*' && sign != '&' && sign != BOX) {
                 suffixed(depth);
                 return;
             }
@@ -1791,7 +2058,8 @@ public final class OwnedPlaces {
             }
             int loan = function.borrows;
             function.borrows++;
-            code.add(DO_BORROW, addPlace(), loan, isUnique ? 1 : 0, -1);
+            int place = code.addPlace(variable, path, length, route, type, types.size[type], from);
+            code.add(DO_BORROW, place, loan, isUnique ? 1 : 0, -1);
             isPlace = false;
             return loan;
         }
@@ -1972,318 +2240,6 @@ public final class OwnedPlaces {
         }
     }
 
-    /** Types the functions' statements from the left and writes their code. */
-    private static final class Statements {
-        private final Text text;
-        private final Types types;
-        private final Declarations declared;
-        private final Code code;
-        private final Expressions exps;
-        private Function function;
-
-        Statements(Text text, Types types, Declarations declared, Code code) {
-            this.text = text;
-            this.types = types;
-            this.declared = declared;
-            this.code = code;
-            exps = new Expressions(text, types, declared, code);
-        }
-
-        void program() {
-            code.clear();
-            for (int i = 0; i < declared.total && text.fault == 0; i++) {
-                function = declared.functions[i];
-                exps.begin(function);
-                body();
-            }
-        }
-
-        private void body() {
-            for (int v = 0; v < function.parameters; v++) {
-                function.settle(v, function.type[v], types.size[function.type[v]]);
-                function.from[v] = code.total;
-            }
-            function.argumentCells = function.cells;
-            function.codeFrom = code.total;
-            function.firstLabel = code.labels;
-            text.now = function.body;
-            boolean returns = block(function.parameters, 1);
-            int end = text.places[text.now - 1];
-            if (!returns && function.result != NOTHING_TYPE) {
-                text.fail(NO_TYPE, end);
-            }
-            code.add(DO_RETURN, NOTHING_TYPE, 0, -1, end);
-            function.codeTo = code.total;
-            function.labels = code.labels - function.firstLabel;
-            function.close(0, code.total);
-        }
-
-        /** Whether all its ways return; with it the variables from that one on go out of scope. */
-        private boolean block(int first, int depth) {
-            boolean returns = false;
-            text.step(1);
-            for (int i = 0; i < MOST_TOKENS && depth <= NESTING && text.fault == 0 && text.kind() != '}'; i++) {
-                boolean itReturns = statement(depth);
-                returns = returns || itReturns;
-            }
-            if (first < function.variables) {
-                function.close(first, code.total);
-                code.add(DO_SCOPE, first, function.variables, 0, text.where());
-            }
-            text.step(1);
-            return returns;
-        }
-
-        private boolean statement(int depth) {
-            code.add(DO_FUEL, 0);
-            switch (text.kind()) {
-                case IF: return branch(depth);
-                case MATCH: return match(depth);
-                case '{': return block(function.variables, depth + 1);
-                case RETURN: return giveBack(depth);
-                case WHILE: loop(depth); return false;
-                case LET: let(depth); return false;
-                case PRINT: print(depth); return false;
-                default: assignment(depth); return false;
-            }
-        }
-
-        private void let(int depth) {
-            text.step(1);
-            boolean isMutable = text.take(MUT);
-            int name = text.names[text.now];
-            int type = UNKNOWN;
-            text.step(1);
-            if (text.take(':')) {
-                type = declared.readLetType();
-            }
-            boolean hasExp = text.take('=');
-            if (hasExp) {
-                int where = text.where();
-                int got = exps.value(depth);
-                if (got == NOTHING_TYPE || type != UNKNOWN && type != got) {
-                    text.fail(NO_TYPE, where);
-                }
-                type = got;
-            }
-            int v = function.declare(name, isMutable, code.total);
-            if (type != UNKNOWN) {
-                function.settle(v, type, types.size[type]);
-            }
-            code.add(hasExp ? DO_LET : DO_LET_NONE, v);
-            text.step(1);
-        }
-
-        private void assignment(int depth) {
-            int start = text.now;
-            int sign = text.links[start];
-            if (sign == 0) {
-                code.add(DO_DROP, exps.value(depth));
-                text.step(1);
-                return;
-            }
-            text.now = sign + 1;
-            int where = text.where();
-            int got = exps.value(depth);
-            int behind = text.now;
-            if (text.fault != 0) {
-                return;
-            }
-            text.now = start;
-            if (isUntyped(start, sign) && got == NOTHING_TYPE) {
-                text.fail(NO_TYPE, where);
-                return;
-            }
-            if (isUntyped(start, sign)) {
-                function.settle(wholeVariable(start, sign), got, types.size[got]);
-            }
-            exps.unused(depth);
-            if (text.fault == 0) {
-                exps.assign(got, where);
-            }
-            if (text.fault == 0) {
-                text.now = behind + 1;
-            }
-        }
-
-        /** Whether what stands ahead of the = is a whole variable that waits for its type. */
-        private boolean isUntyped(int start, int sign) {
-            int v = wholeVariable(start, sign);
-            return v >= 0 && function.type[v] == UNKNOWN;
-        }
-
-        private int wholeVariable(int start, int sign) {
-            int brackets = 0;
-            while (start + brackets < sign && text.kinds[start + brackets] == '(') {
-                brackets++;
-            }
-            int token = start + brackets;
-            boolean isWhole = text.kinds[token] == NAME && token + brackets + 1 == sign;
-            return isWhole ? function.find(text.names[token]) : -1;
-        }
-
-        private void condition(int depth) {
-            exps.fitting(BOOL_TYPE, depth);
-        }
-
-        private boolean branch(int depth) {
-            int end = code.newLabel();
-            boolean returns = true;
-            boolean more = true;
-            boolean hasElse = false;
-            for (int i = 0; i < MOST_TOKENS && more && text.fault == 0; i++) {
-                text.step(1);
-                condition(depth);
-                int other = code.newLabel();
-                code.add(DO_UNLESS, other);
-                boolean itReturns = block(function.variables, depth + 1);
-                returns = returns && itReturns;
-                code.add(DO_JUMP, end);
-                code.setLabel(DO_LABEL, other);
-                hasElse = text.take(ELSE);
-                more = hasElse && text.kind() == IF;
-            }
-            if (hasElse && text.fault == 0) {
-                boolean itReturns = block(function.variables, depth + 1);
-                returns = returns && itReturns;
-            }
-            code.setLabel(DO_LABEL, end);
-            return returns && hasElse;
-        }
-
-        private void loop(int depth) {
-            int head = code.newLabel();
-            int end = code.newLabel();
-            text.step(1);
-            code.setLabel(DO_HEAD, head);
-            code.add(DO_FUEL, 0);
-            condition(depth);
-            code.add(DO_UNLESS, end);
-            block(function.variables, depth + 1);
-            code.add(DO_LOOP, head);
-            code.setLabel(DO_LABEL, end);
-        }
-
-        private boolean match(int depth) {
-            int where = text.where();
-            text.step(1);
-            boolean borrowed = text.take('&');
-            boolean isUnique = borrowed && text.take(MUT);
-            int expWhere = text.where();
-            int loan = -1;
-            if (borrowed) {
-                exps.unused(depth);
-            } else {
-                exps.value(depth);
-            }
-            int type = exps.type;
-            if (text.fault == 0 && borrowed) {
-                loan = exps.lendToMatch(isUnique, expWhere);
-            } else if (types.kind[type] != IS_ENUM) {
-                text.fail(NO_TYPE, expWhere);
-            }
-            if (text.fault != 0) {
-                return false;
-            }
-            text.step(1);
-            boolean returns = arms(type, loan, isUnique, where, depth + 2);
-            text.step(1);
-            return returns;
-        }
-
-        private boolean arms(int type, int loan, boolean isUnique, int where, int depth) {
-            int shape = type - FIRST_SHAPE;
-            int total = types.variants[shape];
-            int table = code.newArms(total);
-            int end = code.newLabel();
-            int seen = 0;
-            boolean returns = true;
-            code.add(DO_SWITCH, table, loan < 0 ? types.size[type] : 0, total, -1);
-            for (int i = 0; i < MOST_TOKENS && text.kind() == NAME; i++) {
-                int tag = types.variantOf(shape, text.names[text.now]);
-                if (tag < 0 || (seen >> tag & 1) == 1) {
-                    text.fail(NO_NAME, text.where());
-                    return false;
-                }
-                seen |= 1 << tag;
-                code.armLabels[table + tag] = code.newLabel();
-                code.setLabel(DO_LABEL, code.armLabels[table + tag]);
-                boolean itReturns = arm(type, tag, loan, isUnique, depth);
-                returns = returns && itReturns;
-                code.add(DO_JUMP, end);
-            }
-            if (seen != (1 << total) - 1) {
-                text.fail(NO_TYPE, where);
-            }
-            code.setLabel(DO_LABEL, end);
-            return returns;
-        }
-
-        private boolean arm(int type, int tag, int loan, boolean isUnique, int depth) {
-            int row = types.rowOf(type - FIRST_SHAPE, tag);
-            int first = function.variables;
-            int where = text.where();
-            text.step(1);
-            int given = text.kind() == '(' ? text.links[text.now] : 0;
-            if (given != types.parts[row]) {
-                text.fail(NO_TYPE, where);
-                return false;
-            }
-            for (int i = 0; i < given; i++) {
-                text.step(1);
-                bind(row * MOST_PARTS + i, type, loan, isUnique);
-                text.step(1);
-            }
-            if (given > 0) {
-                text.step(1);
-            }
-            code.add(DO_POP, loan < 0 ? types.size[type] : 1);
-            text.step(1);
-            return block(first, depth);
-        }
-
-        private void bind(int part, int type, int loan, boolean isUnique) {
-            int v = function.declare(text.names[text.now], false, code.total);
-            int partType = types.partType[part];
-            if (loan < 0) {
-                function.settle(v, partType, types.size[partType]);
-                code.add(DO_BIND, v, types.partOffset[part], types.size[type], -1);
-            } else {
-                function.settle(v, types.referenceTo(partType, isUnique), 1);
-                code.add(DO_BIND_REFERENCE, v, types.partOffset[part], loan, -1);
-            }
-        }
-
-        private boolean giveBack(int depth) {
-            int where = text.where();
-            int type = NOTHING_TYPE;
-            int expWhere = -1;
-            text.step(1);
-            boolean hasExp = text.kind() != ';';
-            if (hasExp) {
-                expWhere = text.where();
-                type = exps.value(depth);
-            }
-            if (type != function.result) {
-                text.fail(NO_TYPE, hasExp ? expWhere : where);
-            }
-            code.add(DO_RETURN, type, hasExp ? 1 : 0, expWhere, where);
-            text.step(1);
-            return true;
-        }
-
-        private void print(int depth) {
-            text.step(1);
-            int where = text.where();
-            int type = exps.value(depth);
-            if (type != INT_TYPE && type != BOOL_TYPE) {
-                text.fail(NO_TYPE, where);
-            }
-            code.add(DO_PRINT, type);
-            text.step(1);
-        }
-    }
-
     /** Finds uses of what may be without a value, by going all ways through a function until nothing new comes. */
     private static final class Moves {
         private final Types types;
@@ -2344,7 +2300,7 @@ public final class OwnedPlaces {
                     break;
                 case DO_MOVE:
                     use(a);
-                    lose(code.placeVariable[a], cellsOf(a));
+                    lose(code.placeVariable[a], code.placeCells[a]);
                     break;
                 case DO_LET: case DO_BIND: case DO_BIND_REFERENCE:
                     state[a] = full(a) << 16;
@@ -2384,12 +2340,8 @@ public final class OwnedPlaces {
             }
         }
 
-        private int cellsOf(int place) {
-            return code.cellsOf(place, types.size[code.placeType[place]]);
-        }
-
         private void use(int place) {
-            if ((state[code.placeVariable[place]] & cellsOf(place)) != 0) {
+            if ((state[code.placeVariable[place]] & code.placeCells[place]) != 0) {
                 tell(place);
             }
         }
@@ -2407,7 +2359,7 @@ public final class OwnedPlaces {
             if (code.placeLength[place] == 0 && !function.mutable[v] && state[v] >>> 16 != 0) {
                 tell(place);
             }
-            int cells = cellsOf(place);
+            int cells = code.placeCells[place];
             state[v] = state[v] & ~cells | cells << 16;
         }
 
@@ -2841,7 +2793,25 @@ public final class OwnedPlaces {
             pushDrop(type, at, parts);
             for (int i = 0; i < MOST_ROUNDS && dropTotal > 0; i++) {
                 dropTotal--;
-                dropOne(dropType[dropTotal], dropAt[dropTotal], dropCells[dropTotal]);
+                int itsType = dropType[dropTotal];
+                int itsAt = dropAt[dropTotal];
+                int kind = types.kind[itsType];
+                if (kind == IS_STRUCT) {
+                    dropParts(types.rowOf(itsType - FIRST_SHAPE, 0), itsAt, dropCells[dropTotal]);
+                } else if ((dropCells[dropTotal] & 1) == 0) {
+                    continue;
+                } else if (kind == IS_ENUM) {
+                    dropParts(types.rowOf(itsType - FIRST_SHAPE, (int) cells[itsAt]), itsAt, ALL_CELLS);
+                } else if (kind == IS_TOKEN) {
+                    waiting.put('d');
+                    waiting.putNumber(cells[itsAt]);
+                    waiting.put('\n');
+                } else {
+                    // No block is taken until all is dropped, so its cells stay as they are.
+                    int block = (int) cells[itsAt];
+                    freeBlock(block, types.size[types.of[itsType]]);
+                    pushDrop(types.of[itsType], block, ALL_CELLS);
+                }
             }
         }
 
@@ -2851,26 +2821,6 @@ public final class OwnedPlaces {
                 dropAt[dropTotal] = at;
                 dropCells[dropTotal] = parts;
                 dropTotal++;
-            }
-        }
-
-        private void dropOne(int type, int at, int parts) {
-            int kind = types.kind[type];
-            if (kind == IS_STRUCT) {
-                dropParts(types.rowOf(type - FIRST_SHAPE, 0), at, parts);
-            } else if ((parts & 1) == 0) {
-                return;
-            } else if (kind == IS_ENUM) {
-                dropParts(types.rowOf(type - FIRST_SHAPE, (int) cells[at]), at, ALL_CELLS);
-            } else if (kind == IS_TOKEN) {
-                waiting.put('d');
-                waiting.putNumber(cells[at]);
-                waiting.put('\n');
-            } else {
-                // No block is taken until all is dropped, so its cells stay as they are.
-                int block = (int) cells[at];
-                freeBlock(block, types.size[types.of[type]]);
-                pushDrop(types.of[type], block, ALL_CELLS);
             }
         }
 
@@ -3001,7 +2951,7 @@ public final class OwnedPlaces {
             int address = addressOf(place);
             int size = types.size[code.placeType[place]];
             pushFrom(address, size);
-            filled[filledBase + code.placeVariable[place]] &= ~code.cellsOf(place, size);
+            filled[filledBase + code.placeVariable[place]] &= ~code.placeCells[place];
             if (code.hasStars(place)) {
                 memory.freeBlock(address, size);
             }
@@ -3197,7 +3147,7 @@ public final class OwnedPlaces {
             int parts = ALL_CELLS;
             if (!code.hasStars(place)) {
                 int v = filledBase + code.placeVariable[place];
-                int cells = code.cellsOf(place, size);
+                int cells = code.placeCells[place];
                 parts = (filled[v] & cells) >> (code.placeRoute[place] >> 4 & 15);
                 filled[v] |= cells;
             }
