@@ -1626,7 +1626,6 @@ public final class OwnedPlaces {
             code.add(DO_RETURN, NOTHING_TYPE, 0, -1, end);
             function.codeTo = code.total;
             function.labels = code.labels - function.firstLabel;
-            function.close(0, code.total);
         }
 
         /** Whether all its ways return; with it the variables from that one on go out of scope. */

@@ -104,6 +104,21 @@ public final class FaceTest {
         Check.feed(x, "fn main(){}");
         Check.due("the end within a token", x.run(9, 0), 1);
         Check.due("place at the end", x.place(), 9);
+        // What stands behind n does not tell, not even in the token that is cut.
+        cut("fn main(){print 1", "x;}", 1, 17);
+        cut("fn main(){let a2345678901234567890".substring(0, 34), "b=1;}", 1, 34);
+        cut("fn main(){}/", "/", 1, 11);
+        cut("fn main(){print 1=", "=1;}", 1, 17);
+        cut("fn f<'a", " b", 1, 7);
+        cut("fn main(){} //", "\u0001", 0, -1);
+        cut("fn main(){}", "#", 0, -1);
+    }
+
+    private static void cut(String text, String behind, int fault, int place) {
+        OwnedPlaces x = new OwnedPlaces(500);
+        Check.feed(x, text + behind);
+        Check.due("fault of " + text + " ahead of " + behind, x.run(text.length(), 9), fault);
+        Check.due("place in " + text, x.place(), place);
     }
 
     private static void place() {

@@ -111,6 +111,12 @@ public final class LoanTest {
         fine("let mut x=1;let r=&x;if read==0{x=2;}else{print *r;}");
         bad("let mut x=1;let mut r=&x;@x=2;if read==0{r=&x;}print *r;");
         bad("let mut x=1;let r;r=&x;@x=2;print *r;");
+        // What one way brings is not held on another.
+        fine("let mut x=1;let y=2;let mut r=&y;if read==0{r=&x;}else{x=2;}print *r;");
+        fine("let mut x=1;let y=2;let mut r=&y;match E::A{A=>{r=&x;}B(t,n)=>{x=2;}}print *r;");
+        fine("let mut x=1;let y=2;let mut r=&y;if read==0{r=&x;print *r;return;}x=2;print *r;");
+        // Nor what is held in another function.
+        Check.fine("fn f(){let x=1;let r=&x;print *r;}" + main("let mut x=1;let y=2;let r=&y;x=2;print *r;"));
     }
 
     private static void values() {

@@ -146,6 +146,8 @@ public final class MoveTest {
         bad("let mut t=token(1);while read==0{while read==0{g(@t);}t=token(2);}");
         bad("let mut a=token(1);let mut b=token(2);let mut c=token(3);while read==0{g(a);a=b;b=@c;}");
         bad("while read==0{let t:token;while read==0{g(@t);}}");
+        bad("let t=token(1);while read==0{&@t;while read==0{g(t);}}");
+        bad("let t=token(1);while read==0{&@t;while read==0{while read==0{g(t);}}}");
         bad("let x:int;while 0==@x{x=1;}");
     }
 

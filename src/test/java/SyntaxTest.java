@@ -350,6 +350,13 @@ public final class SyntaxTest {
         over("print " + Check.times(15, "(") + "token@(1" + Check.times(16, ")"));
         over("print " + Check.times(15, "(") + "E::A@(1" + Check.times(16, ")"));
         over("print " + Check.times(15, "(") + "new P@{a:1}" + Check.times(15, ")"));
+        Check.fine("struct P{a:int}" + main("new P{a:" + Check.times(14, "(") + "1" + Check.times(14, ")") + "};"));
+        over("new P{a:" + Check.times(14, "(") + "@(1");
+        over("new P{a:" + Check.times(14, "(") + "1@+1");
+        over("token(" + Check.times(14, "(") + "@(1");
+        over("E::A(" + Check.times(14, "(") + "@(1");
+        over("f(1,-" + Check.times(13, "(") + "@(1");
+        over("while true{print " + Check.times(14, "(") + "@(1");
         Check.fine("struct P{a:int}" + main(Check.times(14, "(") + "new P{a:1}" + Check.times(14, ")") + ";"));
         Check.writes(main("print " + Check.times(14, "(") + "1+2+3*4" + Check.times(13, ")") + ")*2;").replace("3*4", "3"),
             "12\n");

@@ -404,6 +404,8 @@ public final class TypeTest {
         type("fn f()->int{if true{return 1;}@}" + main(""));
         type("fn f()->int{if true{return 1;}else if false{return 2;}@}" + main(""));
         type("fn f()->int{if true{return 1;}else{}@}" + main(""));
+        type("fn f()->int{if true{}else{return 1;}@}" + main(""));
+        type("fn f()->int{if true{return 1;}else if false{}else{return 1;}@}" + main(""));
         type("fn f()->int{while true{return 1;}@}" + main(""));
         type("fn f(e:E)->int{match e{A=>{return 1;}B(x)=>{}C(x,y)=>{return 2;}}@}" + E + P + main(""));
         name("fn f()->int{@x;}" + main(""));
