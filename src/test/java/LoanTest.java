@@ -4,7 +4,7 @@ public final class LoanTest {
     private static final String E = "enum E{A,B(token,int)}";
     private static final String F =
         "fn i(r:&int)->int{return *r;}fn m(r:&mut int)->int{return *r;}fn same(r:&int)->&int{return r;}"
-        + "fn two(r:&int,s:&int){}fn mix(r:&mut int,x:int){}fn g(t:token){}"
+        + "fn two(r:&int,s:&int){}fn k(b:bool)->int{return 1;}fn mix(r:&mut int,x:int){}fn g(t:token){}"
         + "fn one<'a>(r:&'a int,s:&int)->&'a int{return r;}";
 
     public static void main(String[] args) {
@@ -117,6 +117,9 @@ public final class LoanTest {
         fine("let mut x=1;let y=2;let mut r=&y;if read==0{r=&x;print *r;return;}x=2;print *r;");
         // Nor what is held in another function.
         Check.fine("fn f(){let x=1;let r=&x;print *r;}" + main("let mut x=1;let y=2;let r=&y;x=2;print *r;"));
+        Check.fine("fn f(){let x=1;let q=&x;let y=2;let mut r=q;if read==0{}print *r;}"
+            + main("let mut x=1;let q=&x;let y=2;let mut r=&y;if read==0{}x=2;print *r;"));
+        Check.fine("fn f(){let mut x=1;let q=&mut x;*q=2;}" + main("let x=1;let q=&x;print x;print *q;"));
     }
 
     private static void values() {
@@ -129,6 +132,13 @@ public final class LoanTest {
         fine("let mut x=1;mix(&mut x,2);mix(&mut x,3);");
         bad("let mut x=1;let y=2;mix(&mut x,y+(@x)*2);".replace("(@x)", "@(x)"));
         bad("let mut x=1;mix(&mut x,1+i(&@x));");
+        bad("let mut x=1;mix(&mut x,1+2+i(&@x));");
+        bad("let mut x=1;mix(&mut x,read*2-i(&@x));");
+        bad("let mut x=1;let c=true;mix(&mut x,k(c&&true||!c)+i(&@x));");
+        String w = "fn w(r:&mut int,p:P,e:E,b:box int,x:int){}" + P + E;
+        Check.fault(6, w + main("let mut x=1;w(&mut x,new P{a:1,t:token(2)},E::B(token(1),2),box 3,@x);"));
+        Check.fault(6, w + main("let mut x=1;w(&mut x,new P{t:token(-1),a:1+1},E::A,box (1+read),1-@x);"));
+        Check.fine(w + main("let mut x=1;let y=2;w(&mut x,new P{a:y,t:token(y)},E::B(token(y),2),box y,-y);x=y;"));
         bad("let mut x=1;let c=true;print c||c;if m(&mut x)==1&&c{mix(&mut x,@x);}");
     }
 

@@ -202,6 +202,9 @@ public final class MoveTest {
         bad("let t=token(1);let mut p:P;let x:int;@t=token(2);p.a=x;");
         bad("let x:int;let y=1;@y=x;");
         bad("let mut x=1;let y:int;while read==0{print @y;let z:int;print z;}");
+        // What is known of one function does not tell in the next one.
+        Check.fine(G + "fn f(){let t=token(1);if read==0{g(t);}}fn main(){let t=token(1);if read==0{}g(t);}");
+        Check.fine(G + "fn f(){let t=token(1);if read==0{}g(t);}fn main(){let t:token;if read==0{}t=token(1);}");
         Check.fault(5, "fn f(){let x:int;print @x;}fn main(){let y:int;print y;}");
         Check.fault(5, "fn main(){let y:int;print @y;}fn f(){let x:int;print x;}");
         // Each function's loans come behind its own moves, but ahead of the next function's.

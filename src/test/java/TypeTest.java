@@ -76,6 +76,9 @@ public final class TypeTest {
         name("fn f(a:int,@a:B){}fn main(){}");
         name("fn f<'a,'b,@'a>(a:B){}fn main(){}");
         Check.fine("fn f<'a>(a:int){}enum A{a,b}struct B{a:int,b:int}fn main(){}");
+        String eight = Check.times(8, "box ");
+        Check.fine("fn f(a:" + eight + eight + "int){}fn main(){let a=" + eight + "1;f(" + eight + "a);}");
+        type("fn f(a:" + eight + eight + "int){}fn main(){let a=" + eight + "true;f(@" + eight + "a);}");
     }
 
     private static void lives() {
