@@ -1182,8 +1182,8 @@ public final class OwnedPlaces {
         int cells;
         int codeFrom;
         int codeTo;
-        int firstLabel;
-        int labels;
+        int labelFrom;
+        int labelTo;
         int borrows;
 
         void begin(int itsToken) {
@@ -1616,7 +1616,7 @@ public final class OwnedPlaces {
             }
             function.argumentCells = function.cells;
             function.codeFrom = code.total;
-            function.firstLabel = code.labels;
+            function.labelFrom = code.labels;
             text.now = function.body;
             boolean returns = block(function.parameters, 1);
             int end = text.places[text.now - 1];
@@ -1625,7 +1625,7 @@ public final class OwnedPlaces {
             }
             code.add(DO_RETURN, NOTHING_TYPE, 0, -1, end);
             function.codeTo = code.total;
-            function.labels = code.labels - function.firstLabel;
+            function.labelTo = code.labels;
         }
 
         /** Whether all its ways return; with it the variables from that one on go out of scope. */
@@ -2261,9 +2261,9 @@ public final class OwnedPlaces {
         int firstFault(Function itsFunction) {
             function = itsFunction;
             first = -1;
-            Arrays.fill(rows, 0, function.labels * MOST_VARIABLES, 0);
-            for (int i = 0; i < function.labels; i++) {
-                reached[i] = false;
+            Arrays.fill(rows, function.labelFrom * MOST_VARIABLES, function.labelTo * MOST_VARIABLES, 0);
+            for (int label = function.labelFrom; label < function.labelTo; label++) {
+                reached[label] = false;
             }
             again = true;
             for (int round = 0; round < MOST_ROUNDS && again; round++) {
@@ -2280,7 +2280,7 @@ public final class OwnedPlaces {
             }
             for (int i = function.codeFrom; i < function.codeTo; i++) {
                 if (code.op[i] == DO_LABEL || code.op[i] == DO_HEAD) {
-                    join(code.a[i] - function.firstLabel);
+                    join(code.a[i]);
                 } else if (isReached) {
                     look(i);
                 }
@@ -2313,7 +2313,7 @@ public final class OwnedPlaces {
         }
 
         private void flow(int i) {
-            int label = code.a[i] - function.firstLabel;
+            int label = code.a[i];
             switch (code.op[i]) {
                 case DO_UNLESS: case DO_AND: case DO_OR:
                     send(label);
@@ -2328,7 +2328,7 @@ public final class OwnedPlaces {
                     break;
                 case DO_SWITCH:
                     for (int k = 0; k < code.c[i]; k++) {
-                        send(code.armLabels[code.a[i] + k] - function.firstLabel);
+                        send(code.armLabels[code.a[i] + k]);
                     }
                     isReached = false;
                     break;
@@ -2432,9 +2432,9 @@ public final class OwnedPlaces {
             }
             gatherLoans();
             findUses();
-            Arrays.fill(rows, 0, function.labels * MOST_VARIABLES, 0L);
-            for (int i = 0; i < function.labels; i++) {
-                reached[i] = false;
+            Arrays.fill(rows, function.labelFrom * MOST_VARIABLES, function.labelTo * MOST_VARIABLES, 0L);
+            for (int label = function.labelFrom; label < function.labelTo; label++) {
+                reached[label] = false;
             }
             again = true;
             for (int round = 0; round < MOST_ROUNDS && again; round++) {
@@ -2458,7 +2458,7 @@ public final class OwnedPlaces {
         }
 
         private void findUses() {
-            Arrays.fill(usedAt, 0, function.labels, 0L);
+            Arrays.fill(usedAt, function.labelFrom, function.labelTo, 0L);
             again = true;
             for (int round = 0; round < MOST_ROUNDS && again; round++) {
                 again = false;
@@ -2472,7 +2472,6 @@ public final class OwnedPlaces {
 
         private long usedAhead(int i, long used) {
             int a = code.a[i];
-            int label = a - function.firstLabel;
             switch (code.op[i]) {
                 case DO_COPY: case DO_MOVE: case DO_BORROW:
                     return used | 1L << code.placeVariable[a];
@@ -2485,16 +2484,16 @@ public final class OwnedPlaces {
                 case DO_SCOPE:
                     return used & ~((1L << code.b[i]) - (1L << a));
                 case DO_HEAD:
-                    again = again || usedAt[label] != used;
-                    usedAt[label] = used;
+                    again = again || usedAt[a] != used;
+                    usedAt[a] = used;
                     return used;
                 case DO_LABEL:
-                    usedAt[label] = used;
+                    usedAt[a] = used;
                     return used;
                 case DO_UNLESS: case DO_AND: case DO_OR:
-                    return used | usedAt[label];
+                    return used | usedAt[a];
                 case DO_JUMP: case DO_LOOP:
-                    return usedAt[label];
+                    return usedAt[a];
                 case DO_SWITCH: return usedInArms(i);
                 case DO_RETURN: return 0;
                 default: return used;
@@ -2504,7 +2503,7 @@ public final class OwnedPlaces {
         private long usedInArms(int i) {
             long used = 0;
             for (int k = 0; k < code.c[i]; k++) {
-                used |= usedAt[code.armLabels[code.a[i] + k] - function.firstLabel];
+                used |= usedAt[code.armLabels[code.a[i] + k]];
             }
             return used;
         }
@@ -2518,7 +2517,7 @@ public final class OwnedPlaces {
             }
             for (int i = function.codeFrom; i < function.codeTo; i++) {
                 if (code.op[i] == DO_LABEL || code.op[i] == DO_HEAD) {
-                    join(code.a[i] - function.firstLabel);
+                    join(code.a[i]);
                 } else if (isReached) {
                     look(i);
                 }
@@ -2572,7 +2571,7 @@ public final class OwnedPlaces {
         }
 
         private void flow(int i) {
-            int label = code.a[i] - function.firstLabel;
+            int label = code.a[i];
             switch (code.op[i]) {
                 case DO_UNLESS: case DO_AND: case DO_OR:
                     pop(1);
@@ -2589,7 +2588,7 @@ public final class OwnedPlaces {
                 case DO_SWITCH:
                     pop(1);
                     for (int k = 0; k < code.c[i]; k++) {
-                        send(code.armLabels[code.a[i] + k] - function.firstLabel);
+                        send(code.armLabels[code.a[i] + k]);
                     }
                     isReached = false;
                     break;
@@ -2872,7 +2871,6 @@ public final class OwnedPlaces {
             calls = 0;
             base = memory.stackBegin();
             top = base;
-            function = declared.functions[main];
             call(main);
             for (int i = 0; i < MOST_INSTRUCTIONS && isRunning; i++) {
                 int now = next;

@@ -18,6 +18,7 @@ public final class RunTest {
         assignments();
         references();
         enums();
+        repeated();
         inputs();
         faultsStop();
         large();
@@ -286,6 +287,19 @@ public final class RunTest {
         Check.writes("enum O{N,S(int)}fn get(o:&O,d:int)->int{match & *o{S(x)=>{return *x;}N=>{}}return d;}"
             + main("let mut o=O::N;print get(&o,3);o=O::S(8);print get(&o,3);match &mut o{S(x)=>{*x=*x*2;}N=>{}}print get(&o,1);"),
             "3\n8\n16\n");
+    }
+
+    /** What a statement made is gone at its end, however often it comes. */
+    private static void repeated() {
+        String e = "struct T{a:int,b:int,c:int,d:int,e:int}enum E{A,B(T,T,T)}";
+        String loop = "let mut e=E::A;let mut i=0;while i<3000{i=i+1;";
+        Check.writes(e + main(loop + "match E::A{A=>{}B(x,y,z)=>{}}}print i;"), "3000\n");
+        Check.writes(e + main(loop + "match &e{A=>{}B(x,y,z)=>{}}}print i;"), "3000\n");
+        Check.writes(e + main(loop + "E::A;}print i;"), "3000\n");
+        Check.writes(e + main(loop + "e=E::A;}print i;"), "3000\n");
+        Check.writes(e + main(loop + "let f=E::A;}print i;"), "3000\n");
+        Check.writes(e + "fn f(e:E)->E{return e;}" + main(loop + "f(E::A);}print i;"), "3000\n");
+        Check.writes(main("let mut i=0;while i<3000&&(i<4000||i==1){i=i+1;if i==0||i<0{}}print i;"), "3000\n");
     }
 
     private static void inputs() {

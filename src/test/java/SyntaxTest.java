@@ -74,6 +74,7 @@ public final class SyntaxTest {
     private static void lives() {
         Check.fine("fn f<'a,'_b1>(x:&'a int){}fn main(){}");
         Check.fine("fn f<'a>(x:&'a mut int){}fn main(){}");
+        Check.fine("fn f<'main,'structs>(x:&'main mut int){}fn main(){}");
         Check.fault(1, "fn f<@' a>(x:&int){}fn main(){}");
         Check.fault(1, "fn f<@'1>(x:&int){}fn main(){}");
         Check.fault(1, "fn f<@'>(x:&int){}fn main(){}");
