@@ -70,6 +70,8 @@ final class Check {
         due("fault of " + marked, x.run(text.length(), 777), fault);
         due("place in " + marked, x.place(), place);
         due("fuel of " + marked, x.count(0), 777);
+        due("cells of " + marked, x.count(1), 0);
+        due("most cells of " + marked, x.count(2), 0);
         due("bytes of " + marked, x.count(4), 0);
         due("text behind " + marked, x.count(3), 0);
     }
@@ -86,6 +88,7 @@ final class Check {
         int fault = x.run(text.length(), 20000);
         due("fault of " + text, fault >= 1 && fault <= 6 ? fault : 0, 0);
         due("place in " + text, x.place(), -1);
+        due("text behind " + text, x.count(3), 0);
     }
 
     static OwnedPlaces runs(String text, int fuel, int fault, String output) {
@@ -93,11 +96,33 @@ final class Check {
         feed(x, text);
         due("fault of " + text, x.run(text.length(), fuel), fault);
         due("place in " + text, x.place(), -1);
+        due("text behind " + text, x.count(3), 0);
+        due("bytes of " + text, x.count(4), output.length());
         due("written by " + text, fetchAll(x), output);
         if (fault == 0) {
             due("cells in use behind " + text, x.count(1), 0);
         }
         return x;
+    }
+
+    /** The place and the six counts, in their order. */
+    static void state(String what, OwnedPlaces x, int... placeAndCounts) {
+        due("place " + what, x.place(), placeAndCounts[0]);
+        for (int k = 0; k < 6; k++) {
+            due("count " + k + " " + what, x.count(k), placeAndCounts[k + 1]);
+        }
+    }
+
+    /** A new object with that text in it. */
+    static OwnedPlaces fed(int cells, String text) {
+        OwnedPlaces x = new OwnedPlaces(cells);
+        feed(x, text);
+        return x;
+    }
+
+    /** How many bytes are there when so many were fed, 20 at a time. */
+    static int fedBytes(int length) {
+        return (length + 19) / 20 * 20;
     }
 
     static String times(int times, String s) {
