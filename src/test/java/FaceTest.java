@@ -110,6 +110,7 @@ public final class FaceTest {
         cut("fn main(){}/", "/", 1, 11);
         cut("fn main(){print 1=", "=1;}", 1, 17);
         cut("fn f<'a", " b", 1, 7);
+        cut("fn f<'", "a>(){}", 1, 5);
         cut("fn main(){} //", "\u0001", 0, -1);
         cut("fn main(){}", "#", 0, -1);
     }

@@ -20,6 +20,8 @@ public final class LoanTest {
         returns();
         loops();
         unreached();
+        firstVariable();
+        oneBehindTheOther();
         order();
         Check.end();
     }
@@ -262,11 +264,57 @@ public final class LoanTest {
 
     private static void unreached() {
         fine("let mut x=1;let r=&x;return;x=2;print *r;");
+        String[] ways = {"if read==0{}", "if read==0{}else{}", "while read==0{}", "match E::A{A=>{}B(t,n)=>{}}",
+            "read==0||read==1;", "read==0&&read==1;", "{}"};
+        for (String way : ways) {
+            fine("return;" + way + "let mut x=1;let r=&x;x=2;print *r;");
+            fine("let mut x=1;let r=&x;return;" + way + "x=2;print *r;");
+            fine("let mut x=1;let r=&x;if read==0{return;}else{return;}" + way + "x=2;print *r;");
+            bad("let mut x=1;let r=&x;" + way + "@x=2;print *r;");
+            bad("let mut x=1;let r=&x;if read==0{return;" + way + "}@x=2;" + way + "print *r;");
+        }
         fine("let mut x=1;let r=&x;x=2;return;print *r;");
         fine("let mut x=1;let r=&x;if read==0{x=2;return;}print *r;");
         fine("let r;{let x=1;r=&x;return;}print *r;".replace("print *r;", ""));
         Check.fine("fn f(a:&int)->&int{return a;let x=1;return &x;}" + main(""));
         bad("let mut x=1;let r=&x;while true{@x=2;}print *r;");
+    }
+
+    /** What the first variable holds goes all ways as what others hold does. */
+    private static void firstVariable() {
+        String f = "fn f<'a>(a:&int,b:&'a int)->&'a int{";
+        Check.fault(6, f + "if read==0{}return @a;}" + main(""));
+        Check.fault(6, f + "while read==0{}return @a;}" + main(""));
+        Check.fault(6, f + "read==0||read==1;return @a;}" + main(""));
+        Check.fault(6, f + "match E::A{A=>{}B(t,n)=>{}}return @a;}" + E + main(""));
+        bad("let r;let mut x=1;r=&x;if read==0{}@x=2;print *r;");
+        bad("let r;let mut x=1;if read==0{r=&x;}else{r=&x;}@x=2;print *r;");
+        bad("let mut r;let mut x=1;let y=2;r=&y;while read==0{@x=2;print *r;r=&x;}");
+    }
+
+    /** What was known of one function, or in one run, does not tell in the next one. */
+    private static void oneBehindTheOther() {
+        String shared = "fn f(){let mut x=1;let r=&x;print x;print *r;}";
+        String unique = "fn g(){let mut x=1;let r=&mut x;print @x;print *r;}";
+        Check.fault(6, shared + unique + main(""));
+        Check.fault(6, unique + shared + main(""));
+        Check.fine("fn f(){let mut x=1;&mut x;}fn g(){let mut x=1;&x;x=2;}" + main("let mut x=1;x=2;&x;"));
+        String[] others = {"let mut x=1;let mut r=&x;while read==0{print *r;}", "let mut x=1;let r=&mut x;if read==0{*r=1;}",
+            "let mut x=1;let mut r=&x;while read==0{while read==0{print *r;}r=&x;}", "let mut x=1;let r=&x;x=2;print *r;"};
+        String[] fine = {"let mut x=1;let mut r=&x;while read==0{x=2;}", "let mut x=1;let r=&mut x;if read==0{x=2;}",
+            "let mut x=1;let mut r=&x;while read==0{while read==0{x=2;}r=&x;}", "let mut x=1;let r=&x;x=2;"};
+        OwnedPlaces x = new OwnedPlaces(500);
+        for (String other : others) {
+            for (String body : fine) {
+                Check.feed(x, main(other));
+                int fault = x.run(main(other).length(), 50);
+                Check.due("fault of " + other, fault == 0 || fault == 6 || fault == 8 ? 0 : fault, 0);
+                Check.feed(x, main(body));
+                fault = x.run(main(body).length(), 50);
+                Check.due("fault of " + body + " behind " + other, fault == 8 ? 0 : fault, 0);
+                Check.fetchAll(x);
+            }
+        }
     }
 
     private static void order() {

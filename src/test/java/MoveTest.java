@@ -195,6 +195,17 @@ public final class MoveTest {
         bad("let t=token(1);g(t);while true{}g(@t);");
         fine("let t=token(1);while read==0{g(t);return;g(t);}");
         fine("return;while true{let t=token(1);g(t);g(t);}");
+        String[] ways = {"if read==0{}", "if read==0{}else{}", "while read==0{}", "match E::A{A=>{}B(x)=>{}}",
+            "read==0||read==1;", "read==0&&read==1;", "{}"};
+        for (String way : ways) {
+            fine("return;" + way + "let t=token(1);g(t);g(t);");
+            fine("let t=token(1);g(t);return;" + way + "g(t);");
+            fine("let x=1;if read==0{return;}else{return;}" + way + "x=2;");
+            bad("let t=token(1);" + way + "g(t);" + way + "g(@t);");
+            bad("let x:int;" + way + "print @x;");
+            bad("let x=1;" + way + "@x=2;");
+            bad("let x;if read==0{x=1;return;" + way + "}else{x=2;}" + way + "@x=3;");
+        }
     }
 
     private static void order() {

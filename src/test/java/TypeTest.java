@@ -92,6 +92,15 @@ public final class TypeTest {
         name("fn f<'a>(a:&'a int){let b:&'a @C;}fn main(){}");
         type("fn f<'a>(a:&'a int){let b:box @&'a int;}fn main(){}");
         Check.fine("fn f<'a,'b>(a:&'a int,b:&'b mut int)->&'b mut int{return b;}fn main(){}");
+        name("fn f<'a,'b,'c,'d,'e,'f,'g,'h>(a:&@'i int){}fn main(){}");
+        Check.fine("fn f<'a,'b,'c,'d,'e,'f,'g,'h>(a:&'h int){}fn main(){}");
+        // The lives of one function are none of another's, nor of one in another run.
+        name("fn f<'a>(a:&'a int){}fn g(a:&@'a int){}fn main(){}");
+        OwnedPlaces x = Check.fed(500, "fn f<'a,'b>(){}fn main(){}");
+        Check.due("lives", x.run(26, 9), 0);
+        Check.feed(x, "fn f<'a>(a:&'b int){}fn main(){}");
+        Check.due("lives of another run", x.run(32, 9), 3);
+        Check.due("place", x.place(), 12);
     }
 
     private static void sizes() {
@@ -410,6 +419,15 @@ public final class TypeTest {
         type("fn f()->int{if true{}else{return 1;}@}" + main(""));
         type("fn f()->int{if true{return 1;}else if false{}else{return 1;}@}" + main(""));
         type("fn f()->int{while true{return 1;}@}" + main(""));
+        String[] others = {"1;", "let x=1;", "let x;", "print 1;", "{}", "{1;}", "let mut x=1;x=2;", "f();", "if true{}",
+            "if true{}else{}", "while true{}", "match E::A{A=>{}B(x)=>{}C(x,y)=>{}}", "{{let x=1;}}",
+            "if true{return 1;}else{print 1;}", "match E::A{A=>{return 1;}B(x)=>{return 1;}C(x,y)=>{1;}}"};
+        for (String statement : others) {
+            type("fn f()->int{" + statement + "@}" + E + P + main(""));
+            type("fn f()->int{if read==0{return 1;}else{" + statement + "}@}" + E + P + main(""));
+            Check.fine("fn f()->int{" + statement + "return 1;}" + E + P + main(""));
+            Check.fine("fn f()->int{return 1;" + statement + "}" + E + P + main(""));
+        }
         type("fn f(e:E)->int{match e{A=>{return 1;}B(x)=>{}C(x,y)=>{return 2;}}@}" + E + P + main(""));
         name("fn f()->int{@x;}" + main(""));
         Check.fine("fn f()->int{if true{return 1;}else if false{return 2;}else{return 3;}}" + main(""));
