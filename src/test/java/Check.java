@@ -125,6 +125,23 @@ final class Check {
         return (length + 19) / 20 * 20;
     }
 
+    /** Bodies of main that are without a fault 1 .. 6 are so behind any others, run on the same object. */
+    static void behind(String[] others, String[] fine) {
+        OwnedPlaces x = new OwnedPlaces(500);
+        for (String other : others) {
+            for (String body : fine) {
+                String[] texts = {"fn main(){" + other + "}", "fn main(){" + body + "}"};
+                for (String text : texts) {
+                    feed(x, text);
+                    int fault = x.run(text.length(), 50);
+                    boolean isFine = fault == 0 || fault >= 7;
+                    due("fault of " + body + " behind " + other, isFine || text == texts[0] ? 0 : fault, 0);
+                    fetchAll(x);
+                }
+            }
+        }
+    }
+
     static String times(int times, String s) {
         StringBuilder all = new StringBuilder();
         for (int i = 0; i < times; i++) {

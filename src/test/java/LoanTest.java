@@ -21,6 +21,7 @@ public final class LoanTest {
         loops();
         unreached();
         firstVariable();
+        arms();
         oneBehindTheOther();
         order();
         Check.end();
@@ -292,6 +293,19 @@ public final class LoanTest {
         bad("let mut r;let mut x=1;let y=2;r=&y;while read==0{@x=2;print *r;r=&x;}");
     }
 
+    /** What is used in one arm alone is used, whichever that is; a name of an arm holds nothing. */
+    private static void arms() {
+        String e = "enum G{A,B,C(int)}";
+        String[] uses = {"A=>{print *r;}B=>{}C(n)=>{}", "A=>{}B=>{print *r;}C(n)=>{}", "A=>{}B=>{}C(n)=>{print *r;}"};
+        for (String row : uses) {
+            Check.fault(6, e + main("let mut x=1;let r=&x;@x=2;match G::A{" + row + "}"));
+            Check.fault(6, e + main("let mut x=1;let r=&x;let g=G::A;@x=2;match &g{" + row + "}"));
+            Check.fine(e + main("let r;let mut x=1;r=&x;match G::A{" + row + "}x=2;match G::A{A=>{}B=>{}C(n)=>{}}"));
+        }
+        Check.fine(e + main("let mut x=1;&x;match G::C(3){A=>{}B=>{}C(n)=>{x=2;print n;}}"));
+        Check.fine(e + main("let r;let mut x=1;r=&x;x=2;match G::C(3){A=>{}B=>{}C(n)=>{}}"));
+    }
+
     /** What was known of one function, or in one run, does not tell in the next one. */
     private static void oneBehindTheOther() {
         String shared = "fn f(){let mut x=1;let r=&x;print x;print *r;}";
@@ -303,18 +317,11 @@ public final class LoanTest {
             "let mut x=1;let mut r=&x;while read==0{while read==0{print *r;}r=&x;}", "let mut x=1;let r=&x;x=2;print *r;"};
         String[] fine = {"let mut x=1;let mut r=&x;while read==0{x=2;}", "let mut x=1;let r=&mut x;if read==0{x=2;}",
             "let mut x=1;let mut r=&x;while read==0{while read==0{x=2;}r=&x;}", "let mut x=1;let r=&x;x=2;"};
-        OwnedPlaces x = new OwnedPlaces(500);
-        for (String other : others) {
-            for (String body : fine) {
-                Check.feed(x, main(other));
-                int fault = x.run(main(other).length(), 50);
-                Check.due("fault of " + other, fault == 0 || fault == 6 || fault == 8 ? 0 : fault, 0);
-                Check.feed(x, main(body));
-                fault = x.run(main(body).length(), 50);
-                Check.due("fault of " + body + " behind " + other, fault == 8 ? 0 : fault, 0);
-                Check.fetchAll(x);
-            }
-        }
+        Check.behind(others, fine);
+        String[] reached = {"if read==0{}while read==0{}if read==0{}", "let x=1;let r=&x;while read==0{print *r;}if *r==0{}"};
+        String[] unreached = {"return;if read==0{}let mut x=1;let r=&x;x=2;print *r;",
+            "let mut x=1;let r=&x;return;while read==0{}x=2;print *r;", "return;while read==0{let mut x=1;let r=&x;x=2;print *r;}"};
+        Check.behind(reached, unreached);
     }
 
     private static void order() {

@@ -213,6 +213,13 @@ public final class MoveTest {
         bad("let t=token(1);let mut p:P;let x:int;@t=token(2);p.a=x;");
         bad("let x:int;let y=1;@y=x;");
         bad("let mut x=1;let y:int;while read==0{print @y;let z:int;print z;}");
+        String[] others = {"let t=token(1);let x:int;if read==0{t;}if read==0{}while read==0{}", "let x:int;let y:int;let z:int;"
+            + "while read==0{}if read==0{}if read==0{}", "let x=1;let y=2;let z=3;while read==0{}if read==0{}if read==0{}"};
+        String[] well = {"let t=token(1);if read==0{}if read==0{}while read==0{}t;", "let x:int;if read==0{}x=1;",
+            "let x:int;if read==0{x=1;}else{x=2;}if x==0{}while read==0{}print x;", "return;if read==0{}let x:int;print x;",
+            "let x:int;while read==0{}x=1;", "let x:int;return;while read==0{}print x;",
+            "let x=1;return;if read==0{}x=2;"};
+        Check.behind(others, well);
         // What is known of one function does not tell in the next one.
         Check.fine(G + "fn f(){let t=token(1);if read==0{g(t);}}fn main(){let t=token(1);if read==0{}g(t);}");
         Check.fine(G + "fn f(){let t=token(1);if read==0{}g(t);}fn main(){let t:token;if read==0{}t=token(1);}");

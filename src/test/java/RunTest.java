@@ -291,6 +291,14 @@ public final class RunTest {
 
     /** What a statement made is gone at its end, however often it comes. */
     private static void repeated() {
+        OwnedPlaces x = new OwnedPlaces(16);
+        String[] rounds = {"match &e{A=>{}}", "match E::A{A=>{}}", "e;e=E::A;", "let f=&e;", "if e()==1{}", "e();", "&e;"};
+        for (String round : rounds) {
+            String text = "enum E{A}fn e()->int{return 1;}" + main("let mut e=E::A;while true{" + round + "}");
+            Check.feed(x, text);
+            Check.due("fault of " + text, x.run(text.length(), 20000), 8);
+            Check.state("of " + text, x, -1, 0, 0, 0, 0, 0, 0);
+        }
         String e = "struct T{a:int,b:int,c:int,d:int,e:int}enum E{A,B(T,T,T)}";
         String loop = "let mut e=E::A;let mut i=0;while i<3000{i=i+1;";
         Check.writes(e + main(loop + "match E::A{A=>{}B(x,y,z)=>{}}}print i;"), "3000\n");
