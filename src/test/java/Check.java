@@ -127,19 +127,20 @@ final class Check {
 
     /** Bodies of main that are without a fault 1 .. 6 are so behind any others, run on the same object. */
     static void behind(String[] others, String[] fine) {
-        OwnedPlaces x = new OwnedPlaces(500);
         for (String other : others) {
             for (String body : fine) {
-                String[] texts = {"fn main(){" + other + "}", "fn main(){" + body + "}"};
-                for (String text : texts) {
-                    feed(x, text);
-                    int fault = x.run(text.length(), 50);
-                    boolean isFine = fault == 0 || fault >= 7;
-                    due("fault of " + body + " behind " + other, isFine || text == texts[0] ? 0 : fault, 0);
-                    fetchAll(x);
-                }
+                textBehind("fn main(){" + other + "}", "fn main(){" + body + "}");
             }
         }
+    }
+
+    static void textBehind(String other, String fine) {
+        OwnedPlaces x = fed(500, other);
+        x.run(other.length(), 50);
+        feed(x, fine);
+        int fault = x.run(fine.length(), 50);
+        due("fault of " + fine + " behind " + other, fault >= 1 && fault <= 6 ? fault : 0, 0);
+        due("place in " + fine + " behind " + other, x.place(), -1);
     }
 
     static String times(int times, String s) {

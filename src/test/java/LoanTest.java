@@ -66,6 +66,7 @@ public final class LoanTest {
     }
 
     private static void overlaps() {
+        fields();
         String q = "let mut q=new Q{p:new P{a:1,t:token(1)},q:new P{a:2,t:token(2)},b:box new P{a:3,t:token(3)}};";
         fine(q + "let r=&mut q.p;let s=&mut q.q;(*r).a=1;(*s).a=2;");
         fine(q + "let r=&mut q.p.a;let s=&mut q.p.t;*r=1;*s=token(5);");
@@ -85,6 +86,32 @@ public final class LoanTest {
         bad(q + "let r=&mut (*q.b).a;let s=&mut @q.b;*r=1;");
         bad(q + "let r=&mut (*q.b).a;let s=@*q.b;*r=1;");
         fine(q + "let r=&mut (*q.b).a;let s=q.p;*r=1;");
+    }
+
+    /** Two fields are never one another, one is itself; so with members of them, and with stars. */
+    private static void fields() {
+        String names = "abcdefghijkl";
+        StringBuilder s = new StringBuilder("struct I{x:int,y:int}struct S{");
+        for (int i = 0; i < 12; i++) {
+            s.append(i == 0 ? "" : ",").append(names.charAt(i)).append(i == 5 ? ":I" : i == 11 ? ":box int" : ":int");
+        }
+        for (int i = 0; i < 12; i++) {
+            for (int k = 0; k < 12; k++) {
+                String one = "s." + names.charAt(i);
+                String other = "s." + names.charAt(k);
+                String body = "fn f(){let mut s=g();let r=&mut " + one + ";let t=&mut @" + other + ";&*r;&*t;}fn g()->S{return g();}";
+                if (i == k) {
+                    Check.fault(6, s + "}" + body + main(""));
+                } else {
+                    Check.fine(s + "}" + body.replace("@", "") + main(""));
+                }
+            }
+        }
+        String g = s + "}fn g()->S{return g();}fn f(){let mut s=g();";
+        Check.fine(g + "let r=&mut s.f.x;let t=&mut s.f.y;*r=1;*t=2;}" + main(""));
+        Check.fault(6, g + "let r=&mut s.f.x;let t=&mut @s.f;*r=1;}" + main(""));
+        Check.fault(6, g + "let r=&mut *s.l;let t=&mut @s.l;*r=1;}" + main(""));
+        Check.fine(g + "let r=&mut *s.l;let t=&mut s.k;*r=1;*t=2;}" + main(""));
     }
 
     private static void boxes() {
@@ -213,6 +240,11 @@ public final class LoanTest {
         bad("let x=1;let mut r=&x;while read==0{print *r;let y=1;r=&y;@}");
         fine("let x=1;let mut r=&x;while read==0{let y=1;r=&y;print *r;}");
         fine("let x=1;let mut r=&x;while read==0{let y=1;r=&y;print *r;r=&x;}print *r;");
+        // The end of a block is no use of what stays.
+        fine("let mut x=1;let r=&x;{let y=1;x=2;}");
+        fine("let mut x=1;let r=&x;{let y=1;x=2;{let z=1;x=3;}}x=4;");
+        fine("let mut x=1;let r=&x;while read==0{let y=1;x=2;}");
+        fine("let mut x=1;let r=&x;if read==0{let y=1;x=2;}else{let z=1;x=3;}");
         // A reference that goes does not end what it refers to.
         Check.fine("fn f(r:&mut int)->&mut int{let s=&mut *r;return s;}" + main(""));
         fine("let mut x=1;let s;{let r=&mut x;s=&mut *r;}*s=2;");
@@ -318,10 +350,19 @@ public final class LoanTest {
         String[] fine = {"let mut x=1;let mut r=&x;while read==0{x=2;}", "let mut x=1;let r=&mut x;if read==0{x=2;}",
             "let mut x=1;let mut r=&x;while read==0{while read==0{x=2;}r=&x;}", "let mut x=1;let r=&x;x=2;"};
         Check.behind(others, fine);
+        String[] held = {"let mut x=1;let y=2;let mut r=&x;while read==0{print *r;}",
+            "let mut x=1;let y=2;let r=&x;if read==0{print *r;}else{}print *r;"};
+        String[] free = {"let mut x=1;let y=2;&x;let mut r=&y;while read==0{x=2;print *r;}",
+            "let mut x=1;let y=2;&x;let r=&y;if read==0{x=2;}else{x=3;}x=4;print *r;"};
+        Check.behind(held, free);
         String[] reached = {"if read==0{}while read==0{}if read==0{}", "let x=1;let r=&x;while read==0{print *r;}if *r==0{}"};
         String[] unreached = {"return;if read==0{}let mut x=1;let r=&x;x=2;print *r;",
             "let mut x=1;let r=&x;return;while read==0{}x=2;print *r;", "return;while read==0{let mut x=1;let r=&x;x=2;print *r;}"};
         Check.behind(reached, unreached);
+        String loops = "let mut x=1;let r=&x;while read==0{print *r;}if read==0{print *r;}";
+        String more = "let mut x=1;let r=&x;while read==0{x=2;}if read==0{x=3;}";
+        Check.textBehind("fn f(){" + Check.times(5, "if read==0{}") + "}" + main(loops), "fn f(){}" + main(more));
+        Check.textBehind("fn f(){}" + main(loops), "fn f(){" + Check.times(5, "if read==0{}") + "}" + main(more));
     }
 
     private static void order() {

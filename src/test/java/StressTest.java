@@ -13,6 +13,7 @@ public final class StressTest {
         soup();
         broken();
         manyRuns();
+        largeRuns();
         Check.end();
     }
 
@@ -121,6 +122,19 @@ public final class StressTest {
                 int to = i + random(text.length() - i);
                 answers(x, text.substring(0, i) + text.substring(to));
             }
+        }
+    }
+
+    /** Large texts one behind the other, as many as there can be calls for. */
+    private static void largeRuns() {
+        OwnedPlaces x = new OwnedPlaces(500);
+        String[] texts = {main("let a=false;" + Check.times(240, "if a{}") + "print 1;"), main("let a=false;print "
+            + Check.times(480, "a||") + "!a;"), main("let a=1;" + Check.times(720, "a;") + "print a==1;")};
+        for (int i = 0; i < 6; i++) {
+            String text = texts[i % 3];
+            Check.feed(x, text);
+            Check.due("large run " + i, x.run(text.length(), 2000), 0);
+            Check.due("its bytes", Check.fetchAll(x), i % 3 == 0 ? "1\n" : "true\n");
         }
     }
 

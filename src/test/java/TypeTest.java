@@ -20,6 +20,7 @@ public final class TypeTest {
         members();
         names();
         lets();
+        oneBehindTheOther();
         assignments();
         conditions();
         matches();
@@ -338,6 +339,18 @@ public final class TypeTest {
         Check.writes(main("let x;if false{x=1;}else{x=2;}print x;"), "2\n");
         Check.fine(main("let mut x;let y=1;x=&y;print *x;"));
         name(P + main("let x;x=new P{a:@y,t:token(1)};"));
+    }
+
+    /** What one text told of its tokens and types does not tell in the next one. */
+    private static void oneBehindTheOther() {
+        Check.textBehind(main("let mut x=1;x=2;x=3;"), main("let mut x=1;x+x;x=3;"));
+        Check.textBehind(main("let mut x=1;x;x=3;"), main("let mut x=1;x=2;x+x;"));
+        Check.textBehind(main("let mut x=1;&mut x;&x;box x;"), main("let b=box 1;let mut x=1;let r=&mut x;*r=2;print *b;"));
+        Check.textBehind(main("let b=box box 1;&b;"), main("let mut x=1;let r=&mut x;*r=2;let b=box true;if *b{}"));
+        Check.textBehind(P + main("box new P{a:1,t:token(1)};"), "enum P{A(int)}" + main("let b=box P::A(1);match *b{A(x)=>{}}"));
+        Check.textBehind("fn f(a:int,b:int){}" + main("f(1,2);"), "fn f(a:bool){}" + main("f(true);"));
+        Check.textBehind("fn f(a:int)->int{return 1;}" + main("f(1);"), "fn f(a:int){}" + main("f(1);"));
+        Check.textBehind("struct a{b:int}enum c{d}fn e(){}" + main(""), "fn a(){}struct e{b:int}" + main("let c=1;a();"));
     }
 
     private static void assignments() {
