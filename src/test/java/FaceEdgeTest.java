@@ -344,6 +344,15 @@ public final class FaceEdgeTest {
             Check.fault(3, "fn f(){}" + blanks + "@");
             Check.fault(3, "struct main{a:int}" + blanks + "@");
         }
+        // So it is where no byte is behind the last one of 3000.
+        String[] last = {"1", "a", "_", "12", "(", "-", "print"};
+        for (String token : last) {
+            Check.fault(1, "fn main(){" + Check.times(2990 - token.length(), "\n") + token + "@");
+        }
+        String[] wrong = {"'", "=", "&&", "/", "#", "<", "!=", ":", "::", "|"};
+        for (String token : wrong) {
+            Check.fault(1, "fn main(){" + Check.times(2990 - token.length(), "\n") + "@" + token);
+        }
         // A text of 3000 bytes has its end at 3000.
         Check.fault(1, "fn main(){" + Check.times(2990, " ") + "@");
         Check.fault(3, "fn f(){}//" + Check.times(2990, ".") + "@");

@@ -111,6 +111,10 @@ public final class FaceTest {
         cut("fn main(){print 1=", "=1;}", 1, 17);
         cut("fn f<'a", " b", 1, 7);
         cut("fn f<'", "a>(){}", 1, 5);
+        cut("fn main(){print 9223372036854775807", "0;}", 1, 35);
+        cut("fn main(){print 922337203685477580", "8;}", 1, 34);
+        cut("fn main(){print 1&", "&1;}", 1, 17);
+        cut("fn main()", "{}", 1, 9);
         cut("fn main(){} //", "\u0001", 0, -1);
         cut("fn main(){}", "#", 0, -1);
     }

@@ -334,6 +334,11 @@ public final class LoanTest {
             Check.fault(6, e + main("let mut x=1;let r=&x;let g=G::A;@x=2;match &g{" + row + "}"));
             Check.fine(e + main("let r;let mut x=1;r=&x;match G::A{" + row + "}x=2;match G::A{A=>{}B=>{}C(n)=>{}}"));
         }
+        String[] faults = {"A=>{@x=2;print *r;}B=>{}C(n)=>{}", "A=>{}B=>{@x=2;print *r;}C(n)=>{}", "A=>{}B=>{}C(n)=>{@x=2;print *r;}"};
+        for (String row : faults) {
+            Check.fault(6, e + main("let mut x=1;let r=&x;match G::A{" + row + "}"));
+            Check.fault(6, e + main("let mut x=1;let r=&x;let g=G::A;match &g{" + row + "}"));
+        }
         Check.fine(e + main("let mut x=1;&x;match G::C(3){A=>{}B=>{}C(n)=>{x=2;print n;}}"));
         Check.fine(e + main("let r;let mut x=1;r=&x;x=2;match G::C(3){A=>{}B=>{}C(n)=>{}}"));
     }

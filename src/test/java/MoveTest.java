@@ -131,6 +131,11 @@ public final class MoveTest {
         fine("let e=E::A;let t=token(1);match e{A=>{g(t);return;}B(x)=>{}}g(t);");
         fine("let e=E::A;let x:int;match e{A=>{x=1;}B(y)=>{x=2;}}print x;");
         bad("let e=E::A;match e{A=>{}B(x)=>{g(x);g(@x);}}");
+        String[] arms = {"A=>{g(t);g(@t);}B(x)=>{}", "A=>{}B(x)=>{g(t);g(@t);}", "B(x)=>{}A=>{g(t);g(@t);}", "B(x)=>{g(t);g(@t);}A=>{}"};
+        for (String row : arms) {
+            bad("let t=token(1);match E::A{" + row + "}");
+            bad("let t=token(1);let e=E::A;match &e{" + row + "}");
+        }
     }
 
     private static void loops() {
