@@ -134,6 +134,7 @@ public final class StressTest {
             String text = texts[i % 3];
             Check.feed(x, text);
             Check.due("large run " + i, x.run(text.length(), 2000), 0);
+            Check.due("its fuel", x.count(0), i % 3 == 0 ? 1757 : i % 3 == 1 ? 1997 : 1277);
             Check.due("its bytes", Check.fetchAll(x), i % 3 == 0 ? "1\n" : "true\n");
         }
     }

@@ -345,6 +345,10 @@ public final class TypeTest {
     private static void oneBehindTheOther() {
         Check.textBehind(main("let mut x=1;x=2;x=3;"), main("let mut x=1;x+x;x=3;"));
         Check.textBehind(main("let mut x=1;x;x=3;"), main("let mut x=1;x=2;x+x;"));
+        OwnedPlaces x = Check.fed(500, main("let mut x=1;x=0;"));
+        Check.due("an assignment", x.run(27, 9), 0);
+        Check.feed(x, main("let mut x=1;x/0;"));
+        Check.due("an exp where an assignment was", x.run(27, 9), 7);
         Check.textBehind(main("let mut x=1;&mut x;&x;box x;"), main("let b=box 1;let mut x=1;let r=&mut x;*r=2;print *b;"));
         Check.textBehind(main("let b=box box 1;&b;"), main("let mut x=1;let r=&mut x;*r=2;let b=box true;if *b{}"));
         Check.textBehind(P + main("box new P{a:1,t:token(1)};"), "enum P{A(int)}" + main("let b=box P::A(1);match *b{A(x)=>{}}"));
